@@ -27,11 +27,8 @@ public final class SevenLeague {
     private static final int IMAGES_KEPT = 3;
     private static final long LOW_THIRTY = (1L << 30) - 1;
 
-    private final byte[] tape = new byte[TAPE_ROOM];
-    private int tapeSize = 0;
+    private final Reader reader = new Reader();
     private Country country = new Country();
-    private Country draft = new Country();
-    private final Reader reader = new Reader(tape, draft);
     private final State now = new State();
     private final State later = new State();
     private final History history = new History();
@@ -40,7 +37,6 @@ public final class SevenLeague {
     private final Paths paths = new Paths();
     private final Tours tours = new Tours();
     private final Chances chances = new Chances();
-    private int lastFault = 0;
     private int lastTrouble = 0;
 
     public SevenLeague() {
@@ -49,30 +45,28 @@ public final class SevenLeague {
     // ---- the land
 
     public int feed(int a, int b, int c, int d, int e) {
-        if (tapeSize + FEED_BYTES > TAPE_ROOM) {
+        if (reader.tapeSize + FEED_BYTES > TAPE_ROOM) {
             return NONE;
         }
-        append(a);
-        append(b);
-        append(c);
-        append(d);
-        append(e);
-        return tapeSize;
+        reader.append(a);
+        reader.append(b);
+        reader.append(c);
+        reader.append(d);
+        reader.append(e);
+        return reader.tapeSize;
     }
 
     public int land(int n) {
-        if (!free(n < 0 || n > tapeSize ? NUMBER : 0)) {
+        if (!free(n < 0 || n > reader.tapeSize ? NUMBER : 0)) {
             return NONE;
         }
-        reader.read(n, draft);
-        tapeSize = 0;
-        lastFault = reader.fault;
-        if (!free(lastFault != 0 ? FAULT : 0)) {
+        reader.read(n);
+        if (!free(reader.firstFault != 0 ? FAULT : 0)) {
             return NONE;
         }
         Country before = country;
-        country = draft;
-        draft = before;
+        country = reader.draft;
+        reader.draft = before;
         now.begin(country);
         history.forget();
         imageCount = 0;
@@ -81,7 +75,7 @@ public final class SevenLeague {
     }
 
     public int fault() {
-        return lastFault;
+        return reader.firstFault;
     }
 
     public int where() {
@@ -558,7 +552,7 @@ public final class SevenLeague {
             case 9:
                 return imageCount;
             case 10:
-                return tapeSize;
+                return reader.tapeSize;
             default:
                 return NONE;
         }
@@ -609,15 +603,6 @@ public final class SevenLeague {
     }
 
     // ---- parts of the calls
-
-    private void append(int number) {
-        for (int shift = 24; shift >= 0; shift -= 8) {
-            if (tapeSize < tape.length) {
-                tape[tapeSize] = (byte) (number >> shift);
-                tapeSize++;
-            }
-        }
-    }
 
     private long goneBehind(int years) {
         later.copy(now);
@@ -1383,7 +1368,7 @@ public final class SevenLeague {
         }
     }
 
-    /** Reads a land from the tape, token by token, up to the first fault. */
+    /** The tape, and how a land is read from it: token by token, up to the first fault. */
     private static final class Reader {
         private static final int END = 0;
         private static final int WORD = 1;
@@ -1391,7 +1376,8 @@ public final class SevenLeague {
         private static final int MARK = 3;
         private static final int WRONG = 4;
 
-        private static final int NO_SORT = -1;
+        private static final int NO_WORD = -2;
+        private static final int NAME = -1;
         private static final int LAND = 0;
         private static final int GROUND = 1;
         private static final int BOOTS = 2;
@@ -1410,42 +1396,33 @@ public final class SevenLeague {
         private static final int STUCK = 7;
         private static final int LATE = 8;
 
-        private final byte[] tape;
+        private final byte[] tape = new byte[TAPE_ROOM];
+        int tapeSize = 0;
         private int end = 0;
         private int kind = END;
         private int from = 0;
         private int to = 0;
         private int value = 0;
-        private Country land;
+        Country draft = new Country();
         private final int[] told = new int[7];
         private final Numbers nameFrom = new Numbers(9);
         private final Numbers nameTo = new Numbers(9);
         private final Numbers nameBoots = new Numbers(9);
-        int fault = 0;
+        int firstFault = 0;
         int faultAt = 0;
 
-        Reader(byte[] tape, Country country) {
-            this.tape = tape;
-            this.land = country;
-        }
-
-        void read(int n, Country country) {
-            land = country;
-            land.clear();
-            end = Math.min(n, tape.length);
-            to = 0;
-            fault = 0;
-            faultAt = 0;
-            for (int sort = 0; sort < told.length; sort++) {
-                told[sort] = 0;
+        void append(int number) {
+            for (int shift = 24; shift >= 0; shift -= 8) {
+                if (tapeSize >= 0 && tapeSize < tape.length) {
+                    tape[tapeSize] = (byte) (number >> shift);
+                    tapeSize++;
+                }
             }
-            nameFrom.count = 0;
-            nameTo.count = 0;
-            nameBoots.count = 0;
-            readLines();
         }
 
-        private void readLines() {
+        /** Reads n bytes into the draft, which is a whole land if there is no fault; the tape is empty then. */
+        void read(int n) {
+            begin(n);
             // Each line takes bytes of its own, so there are fewer lines than bytes.
             for (int line = 0; line <= end; line++) {
                 nextToken();
@@ -1453,16 +1430,33 @@ public final class SevenLeague {
                     return;
                 }
                 nextToken();
-                if (kind == END) {
-                    if (land.boots.count == 0) {
-                        fail(LACKS);
-                    }
-                    return;
-                }
                 if (kind != MARK) {
-                    fail(FORM);
+                    endText();
                     return;
                 }
+            }
+        }
+
+        private void begin(int n) {
+            end = Math.min(n, tapeSize);
+            tapeSize = 0;
+            to = 0;
+            firstFault = 0;
+            faultAt = 0;
+            draft.clear();
+            for (int sort = 0; sort < told.length; sort++) {
+                told[sort] = 0;
+            }
+            nameFrom.count = 0;
+            nameTo.count = 0;
+            nameBoots.count = 0;
+        }
+
+        private void endText() {
+            if (kind != END) {
+                fail(FORM);
+            } else if (draft.boots.count == 0) {
+                fail(LACKS);
             }
         }
 
@@ -1470,9 +1464,6 @@ public final class SevenLeague {
             int sort = sortHere();
             if (!headFits(sort)) {
                 return false;
-            }
-            if (sort >= 0 && sort < told.length) {
-                told[sort]++;
             }
             switch (sort) {
                 case LAND:
@@ -1492,48 +1483,50 @@ public final class SevenLeague {
             }
         }
 
-        /** Tested by their numbers: all these faults would be at the line's first word. */
+        /** In the order of their numbers: all these faults would be at the line's first word. */
         private boolean headFits(int sort) {
             if (sort < 0 || sort >= told.length || sort >= ROOM.length) {
                 return fail(FORM);
             }
-            if (sort == LAND) {
-                return told[LAND] == 0 || fail(AGAIN);
+            boolean full = told[sort] >= ROOM[sort];
+            if (full) {
+                return fail(sort == LAND ? AGAIN : MANY);
             }
-            if (told[sort] >= ROOM[sort]) {
-                return fail(MANY);
-            }
-            if (told[LAND] == 0) {
+            if (sort != LAND && told[LAND] == 0) {
                 return fail(LACKS);
             }
-            return sort != GROUND || told[STRIDE] == 0 || fail(LATE);
+            if (sort == GROUND && told[STRIDE] > 0) {
+                return fail(LATE);
+            }
+            told[sort]++;
+            return true;
         }
 
         private boolean readLand() {
             if (!expect("cells") || !expectWhole(8, MOST_CELLS)) {
                 return false;
             }
-            land.cells = value;
+            draft.cells = value;
             if (!expect("son") || !expectCell(0)) {
                 return false;
             }
-            land.sonFirst = value;
-            land.toldSon = value;
+            draft.sonFirst = value;
+            draft.toldSon = value;
             if (!expect("curate") || !expectCell(0)) {
                 return false;
             }
-            land.curateFirst = value;
+            draft.curateFirst = value;
             if (!expect("gout") || !expectWhole(0, 100)) {
                 return false;
             }
-            land.gout = value;
+            draft.gout = value;
             return true;
         }
 
         private boolean readGround() {
             nextToken();
-            int sort = isWord("heath") ? 0 : isWord("bog") ? 1 : isWord("wood") ? 2 : NO_SORT;
-            if (sort == NO_SORT) {
+            int sort = isWord("heath") ? 0 : isWord("bog") ? 1 : isWord("wood") ? 2 : CANT;
+            if (sort == CANT) {
                 return fail(FORM);
             }
             if (!expectCell(0)) {
@@ -1543,15 +1536,15 @@ public final class SevenLeague {
             if (!expectCell(first)) {
                 return false;
             }
-            land.setGround(sort, span(first, value));
+            draft.setGround(sort, span(first, value));
             return true;
         }
 
         private boolean readBoots() {
-            if (!expectNewName(land.boots.count) || !expectWhole(2, 9)) {
+            if (!expectNewName(draft.boots.count) || !expectWhole(2, 9)) {
                 return false;
             }
-            land.boots.add(value);
+            draft.boots.add(value);
             return true;
         }
 
@@ -1559,50 +1552,50 @@ public final class SevenLeague {
             if (!expectNewName(NONE) || !expect("at") || !expectCell(0)) {
                 return false;
             }
-            if (land.placeAt(value) != CANT) {
+            if (draft.placeAt(value) != CANT) {
                 return fail(AGAIN);
             }
-            land.placeCells.add(value);
+            draft.placeCells.add(value);
             if (!expect("folk") || !expectWhole(1, 99)) {
                 return false;
             }
-            land.folk.add(value);
+            draft.folk.add(value);
             return true;
         }
 
         private boolean readStride() {
             nextToken();
-            if (!isName()) {
+            if (sortHere() != NAME) {
                 return fail(FORM);
             }
             int boots = nameBoots.at(nameHere());
-            if (boots < 0) {
+            if (boots == NONE) {
                 return fail(UNTOLD);
             }
             nextToken();
-            int way = isWord("up") ? 0 : isWord("down") ? 1 : NO_SORT;
-            if (way == NO_SORT) {
+            int way = isWord("up") ? 0 : isWord("down") ? 1 : CANT;
+            if (way == CANT) {
                 return fail(FORM);
             }
             int digit = digitFor(boots, way);
-            int target = land.target(land.toldGone, land.toldSon, digit);
+            int target = draft.target(draft.toldGone, draft.toldSon, digit);
             if (target == CANT) {
                 return fail(STUCK);
             }
-            land.toldGone |= inside(land.toldSon, target);
-            land.toldSon = target;
-            land.strides.add(digit);
+            draft.toldGone |= inside(draft.toldSon, target);
+            draft.toldSon = target;
+            draft.strides.add(digit);
             return true;
         }
 
         private boolean readUnsure() {
-            if (!expectWhole(1, land.strides.count)) {
+            if (!expectWhole(1, draft.strides.count)) {
                 return false;
             }
-            if (land.unsure.indexOf(value - 1) != CANT) {
+            if (draft.unsure.indexOf(value - 1) != CANT) {
                 return fail(AGAIN);
             }
-            land.unsure.add(value - 1);
+            draft.unsure.add(value - 1);
             return true;
         }
 
@@ -1610,21 +1603,21 @@ public final class SevenLeague {
             if (!expectCell(0)) {
                 return false;
             }
-            if (land.seenCells.indexOf(value) != CANT) {
+            if (draft.seenCells.indexOf(value) != CANT) {
                 return fail(AGAIN);
             }
-            land.seenCells.add(value);
+            draft.seenCells.add(value);
             nextToken();
-            int how = isWord("gone") ? 1 : isWord("there") ? 0 : NO_SORT;
-            if (how == NO_SORT) {
+            int how = isWord("gone") ? 1 : isWord("there") ? 0 : CANT;
+            if (how == CANT) {
                 return fail(FORM);
             }
-            land.seenGone.add(how);
+            draft.seenGone.add(how);
             return true;
         }
 
         private boolean fail(int number) {
-            fault = number;
+            firstFault = number;
             faultAt = from;
             return false;
         }
@@ -1643,13 +1636,13 @@ public final class SevenLeague {
         }
 
         private boolean expectCell(int least) {
-            return expectWhole(least, land.cells - 1);
+            return expectWhole(least, draft.cells - 1);
         }
 
         /** boots is the number of the boots that the name is of, or NONE for a place. */
         private boolean expectNewName(int boots) {
             nextToken();
-            if (!isName()) {
+            if (sortHere() != NAME) {
                 return fail(FORM);
             }
             if (nameHere() != NONE) {
@@ -1659,10 +1652,6 @@ public final class SevenLeague {
             nameTo.add(to);
             nameBoots.add(boots);
             return true;
-        }
-
-        private boolean isName() {
-            return kind == WORD && sortHere() == NO_SORT;
         }
 
         /** Which name told so far is the one that stands here; NONE if it wasn't told. */
@@ -1687,7 +1676,11 @@ public final class SevenLeague {
             return true;
         }
 
+        /** Which sort of line the word here begins; NAME if none. */
         private int sortHere() {
+            if (kind != WORD) {
+                return NO_WORD;
+            }
             if (isWord("land")) {
                 return LAND;
             }
@@ -1706,7 +1699,7 @@ public final class SevenLeague {
             if (isWord("unsure")) {
                 return UNSURE;
             }
-            return isWord("seen") ? SEEN : NO_SORT;
+            return isWord("seen") ? SEEN : NAME;
         }
 
         private boolean isWord(String word) {
@@ -1721,7 +1714,7 @@ public final class SevenLeague {
             return true;
         }
 
-        /** Goes on to the next token; at the end, or at a wrong byte, it stands there. */
+        /** Goes on to the next token; letters or digits that are too many together are none. */
         private void nextToken() {
             from = to;
             while (from < end && byteAt(from) == ' ') {
@@ -1730,35 +1723,30 @@ public final class SevenLeague {
             to = from;
             if (from >= end) {
                 kind = END;
-            } else if (isLetter(from)) {
-                while (to < end && isLetter(to)) {
+            } else if (isLetter(byteAt(from))) {
+                while (to < end && isLetter(byteAt(to))) {
                     to++;
                 }
                 kind = to - from <= 8 ? WORD : WRONG;
-            } else if (isDigit(from)) {
-                readWhole();
+            } else if (isDigit(byteAt(from))) {
+                value = 0;
+                while (to < end && isDigit(byteAt(to))) {
+                    value = to - from < 3 ? value * 10 + byteAt(to) - '0' : value;
+                    to++;
+                }
+                kind = to - from <= 3 ? WHOLE : WRONG;
             } else {
-                to++;
                 kind = byteAt(from) == ';' ? MARK : WRONG;
-            }
-        }
-
-        private void readWhole() {
-            value = 0;
-            while (to < end && isDigit(to)) {
-                // Beyond three digits it is no whole, whatever its value.
-                value = to - from < 3 ? value * 10 + byteAt(to) - '0' : value;
                 to++;
             }
-            kind = to - from <= 3 ? WHOLE : WRONG;
         }
 
-        private boolean isLetter(int i) {
-            return byteAt(i) >= 'a' && byteAt(i) <= 'z';
+        private static boolean isLetter(int sign) {
+            return sign >= 'a' && sign <= 'z';
         }
 
-        private boolean isDigit(int i) {
-            return byteAt(i) >= '0' && byteAt(i) <= '9';
+        private static boolean isDigit(int sign) {
+            return sign >= '0' && sign <= '9';
         }
 
         private int byteAt(int i) {

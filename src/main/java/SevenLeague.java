@@ -57,11 +57,11 @@ public final class SevenLeague {
     }
 
     public int land(int n) {
-        if (!free(n < 0 || n > reader.tapeSize ? NUMBER : 0)) {
+        if (!granted(n < 0 || n > reader.tapeSize ? NUMBER : 0)) {
             return NONE;
         }
         reader.read(n);
-        if (!free(reader.firstFault != 0 ? FAULT : 0)) {
+        if (!granted(reader.firstFault != 0 ? FAULT : 0)) {
             return NONE;
         }
         Country before = country;
@@ -85,7 +85,7 @@ public final class SevenLeague {
     // ---- now
 
     public int cell(int k, int what) {
-        if (!free(what < 0 || what > 3 ? NO_SUCH : cellTrouble(k))) {
+        if (!granted(what < 0 || what > 3 ? NO_SUCH : cellTrouble(k))) {
             return NONE;
         }
         switch (what) {
@@ -102,7 +102,7 @@ public final class SevenLeague {
 
     public int place(int p, int what) {
         boolean known = p >= 0 && p < country.placeCells.count && what >= 0 && what <= 2;
-        if (!free(known ? 0 : NO_SUCH)) {
+        if (!granted(known ? 0 : NO_SUCH)) {
             return NONE;
         }
         switch (what) {
@@ -116,29 +116,29 @@ public final class SevenLeague {
     }
 
     public int boots(int b) {
-        return free(bootsTrouble(b)) ? country.boots.at(b) : NONE;
+        return granted(bootsTrouble(b)) ? country.boots.at(b) : NONE;
     }
 
     public int son() {
-        return free(landTrouble()) ? now.son : NONE;
+        return granted(landTrouble()) ? now.son : NONE;
     }
 
     public int curate() {
-        return free(landTrouble()) ? now.curate : NONE;
+        return granted(landTrouble()) ? now.curate : NONE;
     }
 
     public int gone() {
-        return free(landTrouble()) ? Long.bitCount(now.goneCells()) : NONE;
+        return granted(landTrouble()) ? Long.bitCount(now.goneCells()) : NONE;
     }
 
     public int lost() {
-        return free(landTrouble()) ? country.lostFolk(now.goneCells()) : NONE;
+        return granted(landTrouble()) ? country.lostFolk(now.goneCells()) : NONE;
     }
 
     // ---- stretches, gaps
 
     public int stretches() {
-        if (!free(landTrouble())) {
+        if (!granted(landTrouble())) {
             return NONE;
         }
         long there = country.allCells() & ~now.goneCells();
@@ -146,11 +146,11 @@ public final class SevenLeague {
     }
 
     public int longest() {
-        return free(landTrouble()) ? longestRun(country.allCells() & ~now.goneCells()) : NONE;
+        return granted(landTrouble()) ? longestRun(country.allCells() & ~now.goneCells()) : NONE;
     }
 
     public int widest() {
-        if (!free(landTrouble())) {
+        if (!granted(landTrouble())) {
             return NONE;
         }
         int first = longestRun(now.goneCells());
@@ -158,38 +158,38 @@ public final class SevenLeague {
     }
 
     public int between(int k, int to) {
-        if (!free(pairTrouble(k, to))) {
+        if (!granted(pairTrouble(k, to))) {
             return NONE;
         }
         return Long.bitCount(now.goneCells() & span(k, to));
     }
 
     public int deep(int k, int to) {
-        return free(pairTrouble(k, to)) ? now.depthOf(span(k, to)) : NONE;
+        return granted(pairTrouble(k, to)) ? now.depthOf(span(k, to)) : NONE;
     }
 
     public int nearest() {
-        return free(landTrouble()) ? country.nearestParted(now.goneCells()) : NONE;
+        return granted(landTrouble()) ? country.nearestParted(now.goneCells()) : NONE;
     }
 
     // ---- years
 
     public int goneIn(int n) {
-        if (!free(numberTrouble(n, MOST_FAR))) {
+        if (!granted(numberTrouble(n, MOST_FAR))) {
             return NONE;
         }
         return Long.bitCount(goneBehind(n));
     }
 
     public int lostIn(int n) {
-        if (!free(numberTrouble(n, MOST_FAR))) {
+        if (!granted(numberTrouble(n, MOST_FAR))) {
             return NONE;
         }
         return country.lostFolk(goneBehind(n));
     }
 
     public int backIn(int k) {
-        if (!free(cellTrouble(k))) {
+        if (!granted(cellTrouble(k))) {
             return NONE;
         }
         later.copy(now);
@@ -203,7 +203,7 @@ public final class SevenLeague {
     }
 
     public int stillIn() {
-        if (!free(landTrouble())) {
+        if (!granted(landTrouble())) {
             return NONE;
         }
         later.copy(now);
@@ -219,11 +219,11 @@ public final class SevenLeague {
     // ---- strides
 
     public int leads(int b, int way) {
-        return free(strideTrouble(b, way)) ? targetNow(b, way) : NONE;
+        return granted(strideTrouble(b, way)) ? targetNow(b, way) : NONE;
     }
 
     public int passes(int b, int way) {
-        if (!free(strideTrouble(b, way))) {
+        if (!granted(strideTrouble(b, way))) {
             return NONE;
         }
         int to = targetNow(b, way);
@@ -231,7 +231,7 @@ public final class SevenLeague {
     }
 
     public int costs(int b, int way) {
-        if (!free(strideTrouble(b, way))) {
+        if (!granted(strideTrouble(b, way))) {
             return NONE;
         }
         int to = targetNow(b, way);
@@ -239,55 +239,55 @@ public final class SevenLeague {
     }
 
     public int rowLeads(int row, int n) {
-        if (!free(rowTrouble(row, n))) {
+        if (!granted(rowTrouble(row, n))) {
             return NONE;
         }
         return makeRow(row, n) ? later.son : CANT;
     }
 
     public int rowLost(int row, int n) {
-        if (!free(rowTrouble(row, n))) {
+        if (!granted(rowTrouble(row, n))) {
             return NONE;
         }
         return makeRow(row, n) ? country.lostFolk(later.goneCells()) : CANT;
     }
 
     public int come(int k) {
-        return free(cellTrouble(k)) ? knownPaths().comeStrides(k) : NONE;
+        return granted(cellTrouble(k)) ? knownPaths().comeStrides(k) : NONE;
     }
 
     public int comeAt(int k, int i) {
-        if (!free(cellTrouble(k))) {
+        if (!granted(cellTrouble(k))) {
             return NONE;
         }
         int strides = knownPaths().comeStrides(k);
-        if (!free(i < 0 || i >= strides ? NO_SUCH : 0)) {
+        if (!granted(i < 0 || i >= strides ? NO_SUCH : 0)) {
             return NONE;
         }
         return digitOf(paths.comeRow(k), strides, i);
     }
 
     public int spare(int k) {
-        return free(cellTrouble(k)) ? knownPaths().spareLost(k) : NONE;
+        return granted(cellTrouble(k)) ? knownPaths().spareLost(k) : NONE;
     }
 
     public int spareRow(int k) {
-        return free(cellTrouble(k)) ? knownPaths().sparingRow(k) : NONE;
+        return granted(cellTrouble(k)) ? knownPaths().sparingRow(k) : NONE;
     }
 
     public int reach(int n) {
-        if (!free(numberTrouble(n, MOST_STRIDES))) {
+        if (!granted(numberTrouble(n, MOST_STRIDES))) {
             return NONE;
         }
         return (int) (knownPaths().reached(n) & LOW_THIRTY);
     }
 
     public int sum(int d) {
-        return free(numberTrouble(d, MOST_FAR)) ? paths.fewestFor(d, country) : NONE;
+        return granted(numberTrouble(d, MOST_FAR)) ? paths.fewestFor(d, country) : NONE;
     }
 
     public int over(int k) {
-        if (!free(cellTrouble(k))) {
+        if (!granted(cellTrouble(k))) {
             return NONE;
         }
         int unit = country.strideUnit();
@@ -295,31 +295,31 @@ public final class SevenLeague {
     }
 
     public int never() {
-        return free(landTrouble()) ? paths.longestWithoutSum(country) : NONE;
+        return granted(landTrouble()) ? paths.longestWithoutSum(country) : NONE;
     }
 
     // ---- the curate
 
     public int tour(int n) {
-        return free(numberTrouble(n, MOST_STEPS)) ? bestTour(n).folkLost : NONE;
+        return granted(numberTrouble(n, MOST_STEPS)) ? bestTour(n).folkLost : NONE;
     }
 
     public int tourGone(int n) {
-        return free(numberTrouble(n, MOST_STEPS)) ? bestTour(n).cellsGone : NONE;
+        return granted(numberTrouble(n, MOST_STEPS)) ? bestTour(n).cellsGone : NONE;
     }
 
     public int tourAt(int n, int i) {
-        if (!free(numberTrouble(n, MOST_STEPS))) {
+        if (!granted(numberTrouble(n, MOST_STEPS))) {
             return NONE;
         }
-        if (!free(i < 0 || i > n ? NO_SUCH : 0)) {
+        if (!granted(i < 0 || i > n ? NO_SUCH : 0)) {
             return NONE;
         }
         return bestTour(n).standsBehind(now.curate, i);
     }
 
     public int steps(int k) {
-        if (!free(cellTrouble(k))) {
+        if (!granted(cellTrouble(k))) {
             return NONE;
         }
         int depth = now.depthAt(k);
@@ -334,32 +334,32 @@ public final class SevenLeague {
     // ---- unsure strides
 
     public int fits() {
-        return free(landTrouble()) ? Integer.bitCount(country.fittingSets()) : NONE;
+        return granted(landTrouble()) ? Integer.bitCount(country.fittingSets()) : NONE;
     }
 
     public int fitAt(int i) {
         int fitting = country.fittingSets();
         boolean known = i >= 0 && i < Integer.bitCount(fitting);
-        if (!free(landTrouble() == 0 && known ? 0 : NO_SUCH)) {
+        if (!granted(landTrouble() == 0 && known ? 0 : NO_SUCH)) {
             return NONE;
         }
         return nthBit(fitting, i);
     }
 
     public int could() {
-        return free(landTrouble()) ? country.inSomeFit() : NONE;
+        return granted(landTrouble()) ? country.inSomeFit() : NONE;
     }
 
     public int surely() {
-        return free(landTrouble()) ? country.inAllFits() : NONE;
+        return granted(landTrouble()) ? country.inAllFits() : NONE;
     }
 
     public int ask() {
-        return free(landTrouble()) ? country.bestQuestion() : NONE;
+        return granted(landTrouble()) ? country.bestQuestion() : NONE;
     }
 
     public int askLeaves() {
-        if (!free(landTrouble())) {
+        if (!granted(landTrouble())) {
             return NONE;
         }
         int question = country.bestQuestion();
@@ -367,20 +367,20 @@ public final class SevenLeague {
     }
 
     public int judge() {
-        return free(landTrouble()) ? country.firstUnlike() : NONE;
+        return granted(landTrouble()) ? country.firstUnlike() : NONE;
     }
 
     // ---- son and county
 
     public int goes(int mud, boolean son, boolean county, boolean ofCounty) {
-        if (!free(numberTrouble(mud, MOST_MUD))) {
+        if (!granted(numberTrouble(mud, MOST_MUD))) {
             return -100;
         }
         return ofCounty ? shareOf(mud, county, son) : shareOf(mud, son, county);
     }
 
     public int rests(int mud) {
-        if (!free(numberTrouble(mud, MOST_MUD))) {
+        if (!granted(numberTrouble(mud, MOST_MUD))) {
             return NONE;
         }
         int count = 0;
@@ -393,7 +393,7 @@ public final class SevenLeague {
     }
 
     public int rest(int mud) {
-        if (!free(numberTrouble(mud, MOST_MUD))) {
+        if (!granted(numberTrouble(mud, MOST_MUD))) {
             return NONE;
         }
         for (int pair = 0; pair < 4; pair++) {
@@ -407,7 +407,7 @@ public final class SevenLeague {
     // ---- gout
 
     public long odds(int k, int row, int n, boolean lower) {
-        if (!free(cellTrouble(k) != 0 ? NO_SUCH : rowTrouble(row, n))) {
+        if (!granted(cellTrouble(k) != 0 ? NO_SUCH : rowTrouble(row, n))) {
             return NONE;
         }
         chances.weigh(country, now, row, n, k);
@@ -415,7 +415,7 @@ public final class SevenLeague {
     }
 
     public long mean(int row, int n, boolean lower) {
-        if (!free(rowTrouble(row, n))) {
+        if (!granted(rowTrouble(row, n))) {
             return NONE;
         }
         chances.weigh(country, now, row, n, now.son);
@@ -424,7 +424,7 @@ public final class SevenLeague {
 
     public int drawn(int row, int n, int seed) {
         int trouble = rowTrouble(row, n);
-        if (!free(trouble != 0 ? trouble : numberTrouble(seed, MOST_SEED))) {
+        if (!granted(trouble != 0 ? trouble : numberTrouble(seed, MOST_SEED))) {
             return NONE;
         }
         later.copy(now);
@@ -441,10 +441,10 @@ public final class SevenLeague {
     // ---- acts
 
     public int stride(int b, int way) {
-        if (!free(strideTrouble(b, way))) {
+        if (!granted(strideTrouble(b, way))) {
             return NONE;
         }
-        if (!free(targetNow(b, way) == CANT ? NOT_SO : 0)) {
+        if (!granted(targetNow(b, way) == CANT ? NOT_SO : 0)) {
             return NONE;
         }
         history.keep(now);
@@ -453,11 +453,11 @@ public final class SevenLeague {
     }
 
     public int step(int way) {
-        if (!free(landTrouble() != 0 ? NO_SUCH : wayTrouble(way))) {
+        if (!granted(landTrouble() != 0 ? NO_SUCH : wayTrouble(way))) {
             return NONE;
         }
         int to = now.curate + (way == 0 ? 1 : -1);
-        if (!free(to < 0 || to >= country.cells ? NOT_SO : 0)) {
+        if (!granted(to < 0 || to >= country.cells ? NOT_SO : 0)) {
             return NONE;
         }
         history.keep(now);
@@ -466,10 +466,10 @@ public final class SevenLeague {
     }
 
     public int year() {
-        if (!free(landTrouble())) {
+        if (!granted(landTrouble())) {
             return NONE;
         }
-        if (!free(now.years >= MOST_YEARS ? NO_ROOM : 0)) {
+        if (!granted(now.years >= MOST_YEARS ? NO_ROOM : 0)) {
             return NONE;
         }
         history.keep(now);
@@ -480,11 +480,11 @@ public final class SevenLeague {
     }
 
     public int fill(int k) {
-        if (!free(cellTrouble(k))) {
+        if (!granted(cellTrouble(k))) {
             return NONE;
         }
         int depth = now.depthAt(k);
-        if (!free(depth == 0 ? NOT_SO : 0)) {
+        if (!granted(depth == 0 ? NOT_SO : 0)) {
             return NONE;
         }
         history.keep(now);
@@ -493,11 +493,11 @@ public final class SevenLeague {
     }
 
     public boolean undo() {
-        return free(history.takeBack(now) ? 0 : EMPTY);
+        return granted(history.takeBack(now) ? 0 : EMPTY);
     }
 
     public int image() {
-        if (!free(landTrouble() != 0 ? NO_SUCH : imageCount >= IMAGES_KEPT ? NO_ROOM : 0)) {
+        if (!granted(landTrouble() != 0 ? NO_SUCH : imageCount >= IMAGES_KEPT ? NO_ROOM : 0)) {
             return NONE;
         }
         images.keep(imageCount, now);
@@ -506,7 +506,7 @@ public final class SevenLeague {
     }
 
     public boolean back(int image) {
-        if (!free(image < 0 || image >= imageCount ? NO_SUCH : 0)) {
+        if (!granted(image < 0 || image >= imageCount ? NO_SUCH : 0)) {
             return false;
         }
         images.fetch(image, now);
@@ -564,7 +564,7 @@ public final class SevenLeague {
 
     // ---- what calls are refused for
 
-    private boolean free(int number) {
+    private boolean granted(int number) {
         lastTrouble = number;
         return number == 0;
     }

@@ -411,12 +411,30 @@ public final class PromiseTest {
         due.is("come(2), gone", -2, x.come(2));
         x.undo();
         comeBy(x, 2, 2);
+        newLands();
         SevenLeague twos = Tapes.landed("land cells 30 son 0 curate 0 gout 0;boots b 2");
         comeBy(twos, 10, 1, 1, 1, 1, 1);
         due.is("come(12), six strides", -2, twos.come(12));
         due.is("come(11)", -2, twos.come(11));
         due.is("trouble()", 0, twos.trouble());
         due.refused("comeAt(11, 0)", twos.comeAt(11, 0), twos, 1);
+    }
+
+    /** Lands alike but for their boots: what was found out in one is forgotten by the next, and by the one behind it. */
+    private static void newLands() {
+        SevenLeague x = heath();
+        due.is("come(7)", 1, x.come(7));
+        String like = "land cells 12 son 4 curate 6 gout 25;boots two 4";
+        for (int i = 0; i < 3; i++) {
+            for (int times = 0; times < i; times++) {
+                Tapes.feed(x, like);
+                x.land(like.length());
+            }
+            due.is("come(7) behind " + i + " lands", i == 0 ? 1 : -2, x.come(7));
+            Tapes.feed(x, HEATH);
+            x.land(HEATH.length());
+            due.is("come(7) again", 1, x.come(7));
+        }
     }
 
     private static void spareBy(SevenLeague x, int k, int folk, int row) {

@@ -30,6 +30,15 @@ public final class TextTest {
     }
 
     private static void bad(String text, int fault, int where) {
+        badAsItIs(text, fault, where);
+        // What stands behind the first fault doesn't matter.
+        if (where < text.length()) {
+            badAsItIs(text + ";%", fault, where);
+            badAsItIs(text + ";boots zz 0", fault, where);
+        }
+    }
+
+    private static void badAsItIs(String text, int fault, int where) {
         SevenLeague x = new SevenLeague();
         Tapes.feed(x, text);
         due.refused("land of '" + text + "'", x.land(text.length()), x, 4);
@@ -113,6 +122,16 @@ public final class TextTest {
             badLast(BOOTS + ";place " + head, 1);
             badLast(BOOTS + ";stride " + head, 1);
         }
+        for (String head : new String[] {"land", "ground", "boots", "place", "stride", "unsure", "seen"}) {
+            badLast(BOOTS + ";x" + head.substring(1), 1);
+            badLast(BOOTS + ";" + head.substring(0, head.length() - 1) + "x", 1);
+            badLast(BOOTS + ";" + head + "s", 1);
+            good(BOOTS + ";boots x" + head.substring(1) + " 4");
+            good(BOOTS + ";boots " + head + "s 4");
+        }
+        badLast(BOOTS + ";ground dog", 1);
+        badLast(BOOTS + ";seen 3 done", 1);
+        badLast("land bells", 1);
         badLast(BOOTS + ";place p on", 1);
         badLast(BOOTS + ";place p at 3 and", 1);
         badLast(BOOTS + ";stride 1", 1);

@@ -1,6 +1,7 @@
 /** The text of a land: its tokens, its lines, its faults and their places (term I; promises 2 to 5). */
 public final class TextTest {
     private static final Due due = new Due();
+    private static final Texts texts = new Texts(due);
     private static final String LAND = "land cells 9 son 4 curate 0 gout 0";
     private static final String BOOTS = LAND + ";boots b 3";
     private static final String STRIDE = BOOTS + ";stride b up";
@@ -20,40 +21,19 @@ public final class TextTest {
     }
 
     private static void good(String text) {
-        SevenLeague x = new SevenLeague();
-        Tapes.feed(x, text);
-        int cells = x.land(text.length());
-        due.is("land of '" + text + "' (fault " + x.fault() + " at " + x.where() + ") is one", true, cells >= 8);
-        due.is("fault of '" + text + "'", 0, x.fault());
-        due.is("where of '" + text + "'", -1, x.where());
-        due.is("trouble of '" + text + "'", 0, x.trouble());
+        texts.good(text);
     }
 
     private static void bad(String text, int fault, int where) {
-        badAsItIs(text, fault, where);
-        // What stands behind the first fault doesn't matter.
-        if (where < text.length()) {
-            badAsItIs(text + ";%", fault, where);
-            badAsItIs(text + ";boots zz 0", fault, where);
-        }
+        texts.bad(text, fault, where);
     }
 
-    private static void badAsItIs(String text, int fault, int where) {
-        SevenLeague x = new SevenLeague();
-        Tapes.feed(x, text);
-        due.refused("land of '" + text + "'", x.land(text.length()), x, 4);
-        due.is("fault of '" + text + "'", fault, x.fault());
-        due.is("where of '" + text + "'", where, x.where());
-        due.is("cells of '" + text + "'", 0, x.size(0));
-    }
-
-    /** The fault is at the last token of the text. */
     private static void badLast(String text, int fault) {
-        bad(text, fault, Math.max(text.lastIndexOf(' '), text.lastIndexOf(';')) + 1);
+        texts.badLast(text, fault);
     }
 
     private static void badEnd(String text, int fault) {
-        bad(text, fault, text.length());
+        texts.badEnd(text, fault);
     }
 
     private static void goodTexts() {

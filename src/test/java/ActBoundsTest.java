@@ -183,7 +183,7 @@ public final class ActBoundsTest {
     }
 
     private static void undoKept() {
-        due.term("UNDO: the latest (16 are kept)");
+        due.term("ACTS: STRIDE, STEP, YEAR, FILL (a CELL that is GONE is there). UNDO: the latest (16 are kept)");
         for (int acts : new int[] {1, 2, 15, 16, 17, 18, 31, 32, 33, 48}) {
             SevenLeague x = landed("land cells 60 son 0 curate 5 gout 0;boots b 2");
             for (int i = 0; i < acts; i++) x.step(0);
@@ -322,7 +322,8 @@ public final class ActBoundsTest {
     }
 
     private static void sizeAtMost() {
-        due.promise(61, "0 cells, 1 gout, 2 boots, 3 places, 4 strides as told, 5 unsure ones, 6 seen, 7 years gone by NOW, 8 ACTS that can be undone, 9 IMAGES, 10 bytes of THE TAPE");
+        due.promise(61, "0 cells, 1 gout, 2 boots, 3 places, 4 strides as told, 5 unsure ones, 6 seen, 7 years gone by NOW, 8 ACTS that "
+                + "can be undone, 9 IMAGES, 10 bytes of THE TAPE");
         SevenLeague x = landed(Lands.MOST);
         for (int i = 0; i < 3; i++) x.image();
         x.year();
@@ -359,7 +360,7 @@ public final class ActBoundsTest {
     }
 
     private static void troubleStays() {
-        due.term("TROUBLE of the latest call that may be refused (those of which a number is told here)");
+        due.term("IV. TROUBLE of the latest call that may be refused (those of which a number is told here)");
         for (int i = 0; i < 46; i++) {
             SevenLeague x = landed(Lands.LEAST);
             for (int j = 0; j < i; j++) x.feed(0, 0, 0, 0, 0);

@@ -32,7 +32,8 @@ public final class ChanceBoundsTest {
     // ---- unsure strides
 
     private static void fits() {
-        due.term("FITS: sets of unsure strides that were the other way, by which all strides told can be made and each CELL seen is so: all such");
+        due.term("FITS: sets of unsure strides that were the other way, by which all strides told can be made and each CELL seen is so: "
+                + "all such");
         SevenLeague edge = landed("land cells 20 son 2 curate 0 gout 0;boots a 3;stride a up;unsure 1");
         due.granted("fits(), the other way leads below 0", 1, edge.fits(), edge);
         due.is("fits(), the other way leads to 0", 2, landed("land cells 20 son 3 curate 0 gout 0;boots a 3;stride a up;unsure 1").fits());
@@ -82,6 +83,8 @@ public final class ChanceBoundsTest {
         due.granted("could(), no fits", 0, empty.could(), empty);
         due.is("could(), no unsure stride", 0, landed(TWO).could());
         due.is("could(), the second alone", 2, landed(TWO + ";unsure 1;unsure 2;seen 11 gone").could());
+        due.is("could(), either of two", 3, landed(TWO + ";unsure 1;unsure 2;seen 10 gone").could());
+        due.is("could(), all four in the only one", 15, landed(FOUR + ";seen 25 gone").could());
         due.refused("could()", none.could(), none, 1);
         due.promise(43, "Unsure strides in all (0 without a set), as bits. NONE: 1 (no LAND)");
         due.granted("surely(), none", 0, four.surely(), four);
@@ -89,6 +92,7 @@ public final class ChanceBoundsTest {
         due.is("surely(), no unsure stride", 0, landed(TWO).surely());
         due.is("surely(), the first", 1, landed(TWO + ";unsure 1;unsure 2;seen 11 there").surely());
         due.is("surely(), both", 3, landed(TWO + ";unsure 1;unsure 2;seen 4 gone").surely());
+        due.is("surely(), either of two", 0, landed(TWO + ";unsure 1;unsure 2;seen 10 gone").surely());
         // Down by all four behind one up: 30, 32, 30, 28, 26, 24.
         due.is("surely(), all four", 15, landed(FOUR + ";seen 25 gone").surely());
         due.refused("surely()", none.surely(), none, 1);
@@ -146,8 +150,9 @@ public final class ChanceBoundsTest {
     // ---- son and county
 
     private static void goes() {
-        due.term("both stay: 1 each; both go: 0 less mud each; who goes alone has 3, the other one -1");
-        due.promise(47, "What the son (or ofCounty, the county) has if each goes or stays, and mud is so much (0 .. 9). -100: 1 (no LAND); 2");
+        due.term("SON and COUNTY each stay or go: both stay: 1 each; both go: 0 less mud each; who goes alone has 3, the other one -1");
+        due.promise(47, "What the son (or ofCounty, the county) has if each goes or stays, and mud is so much (0 .. 9). -100: 1 (no "
+                + "LAND); 2");
         SevenLeague x = landed(Lands.LEAST), none = new SevenLeague();
         for (int mud = 0; mud <= 9; mud++) {
             for (int of = 0; of < 2; of++) {
@@ -212,7 +217,8 @@ public final class ChanceBoundsTest {
     }
 
     private static void odds() {
-        due.promise(50, "How likely he is in a CELL behind a ROW (one, too, that can't be made as it is) with GOUT, the upper WHOLE or the lower, in lowest terms (0 by 1)");
+        due.promise(50, "How likely he is in a CELL behind a ROW (one, too, that can't be made as it is) with GOUT, the upper WHOLE or "
+                + "the lower, in lowest terms (0 by 1)");
         for (int gout = 0; gout <= 100; gout++) {
             SevenLeague x = gouty(gout);
             long part = common(100 - gout, 100);
@@ -231,6 +237,8 @@ public final class ChanceBoundsTest {
         oddsAre(gouty(50), 0, 0, 0, 1, 1);
         oddsAre(gouty(50), 1, 0, 0, 0, 1);
         oddsAre(gouty(50), 59, 0, 0, 0, 1);
+        due.term("GOUT by chance: each stride of a ROW, as likely as told, isn't made (he goes on with the next one; one he can't make "
+                + "isn't, either)");
         // Down from 0 can't be made, with gout or without; he goes on with the next one.
         oddsAre(gouty(30), 0, 2, 1, 1, 1);
         oddsAre(gouty(30), 0, 22222, 5, 1, 1);
@@ -314,7 +322,7 @@ public final class ChanceBoundsTest {
     }
 
     private static void drawn() {
-        due.term("a DRAW mod 100 for each stride: below gout it isn't (SEED becomes (75 times SEED and 74) mod 65,537)");
+        due.term("By a SEED: a DRAW mod 100 for each stride: below gout it isn't (SEED becomes (75 times SEED and 74) mod 65,537)");
         due.promise(52, "Where he is behind a ROW with GOUT by a SEED (0 .. 65,536)");
         for (int gout = 0; gout <= 100; gout++) {
             SevenLeague x = gouty(gout);

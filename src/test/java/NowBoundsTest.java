@@ -389,7 +389,9 @@ public final class NowBoundsTest {
     // ---- term II
 
     private static void strideTerm() {
-        due.term("if there is one that is there (else he can't); all CELLS between, that are there, come to be GONE: for heath 1 deep, for bog 2, for wood 3");
+        due.term("II. Each CELL is there, or GONE. A STRIDE in boots, up or down: the son comes to the CELL so many on, "
+                + "if there is one that is there (else he can't); all CELLS between, that are there, come to be GONE: "
+                + "for heath 1 deep, for bog 2, for wood 3");
         for (int length = 2; length <= 9; length++) {
             String text = "land cells 60 son 20 curate 0 gout 0;boots b " + length;
             for (String way : new String[] {"up", "down"}) {
@@ -412,6 +414,9 @@ public final class NowBoundsTest {
         due.is("what is gone already stays as deep", 2, x.cell(3, 1));
         due.is("what was there is as deep as its ground", 1, x.cell(1, 1));
         due.is("bog", 2, x.cell(2, 1));
+        SevenLeague act = landed(Lands.THREE.replace(";stride b up", ""));
+        act.stride(0, 0);
+        for (int k = 0; k <= 4; k++) due.is("by an act as by a stride told, cell " + k, k % 4, act.cell(k, 1));
         due.term("A place is LOST while its CELL is GONE, and its folk are");
         SevenLeague lost = landed("land cells 8 son 0 curate 0 gout 0;ground wood 1 1;boots b 2;place p at 1 folk 7;stride b up");
         int[] folk = {7, 7, 0};
@@ -423,7 +428,8 @@ public final class NowBoundsTest {
     }
 
     private static void stepTerm() {
-        due.term("if it is GONE it is 1 less deep; 0 deep it is there. (Who stands in a CELL doesn't keep it.)");
+        due.term("A STEP of the curate: to the next CELL, up or down (GONE or not): if it is GONE it is 1 less deep; 0 deep it is "
+                + "there. (Who stands in a CELL doesn't keep it.)");
         SevenLeague x = landed("land cells 8 son 0 curate 2 gout 0;ground bog 2 2;ground wood 3 3;boots b 4;stride b up");
         due.is("the curate's cell goes too", 2, x.cell(2, 1));
         due.is("he stays in it", 2, x.curate());
@@ -439,7 +445,7 @@ public final class NowBoundsTest {
     }
 
     private static void yearTerm() {
-        due.term("has one next to it that is there, ahead of that YEAR, is 1 less deep, but for bog");
+        due.term("A YEAR: each CELL that is GONE and has one next to it that is there, ahead of that YEAR, is 1 less deep, but for bog");
         SevenLeague x = landed("land cells 60 son 50 curate 0 gout 0;boots b 9;stride b up");
         int[] gone = {8, 6, 4, 2, 0, 0};
         for (int n = 0; n < gone.length; n++) {
@@ -459,8 +465,14 @@ public final class NowBoundsTest {
         bog.step(0);
         bog.year();
         due.is("bog, 1 deep", 1, bog.cell(1, 1));
-        due.term("At first no CELL is GONE; then the strides told are made");
+        due.term("At first no CELL is GONE; then the strides told are made. NOW is behind all that was done");
         due.is("no stride told", 0, landed(Lands.LEAST).gone());
-        due.is("a stride told", 1, landed(Lands.LEAST + ";stride b up").gone());
+        SevenLeague told = landed(Lands.LEAST + ";stride b up");
+        due.is("a stride told", 1, told.gone());
+        told.stride(0, 0);
+        due.is("gone() behind an act", 2, told.gone());
+        due.is("leads(0, 0) behind an act", 6, told.leads(0, 0));
+        told.undo();
+        due.is("leads(0, 0) behind undoing", 4, told.leads(0, 0));
     }
 }

@@ -170,7 +170,8 @@ public final class StrideBoundsTest {
     }
 
     private static void rowLeads() {
-        due.term("A ROW of strides: digits, n of them (0 .. 5), the first one's the highest: 1 up in the first boots, 2 down, 3 up in the second ones, 4 down, 5, 6 in the third ones");
+        due.term("III. From NOW on. A ROW of strides: digits, n of them (0 .. 5), the first one's the highest: 1 up in the first boots, "
+                + "2 down, 3 up in the second ones, 4 down, 5, 6 in the third ones: made one behind the other, if each can be");
         SevenLeague x = landed("land cells 60 son 30 curate 0 gout 0;boots a 9;boots b 4;boots c 2");
         int[] to = {39, 21, 34, 26, 32, 28};
         for (int digit = 1; digit <= 6; digit++) due.granted("rowLeads(" + digit + ", 1)", to[digit - 1], x.rowLeads(digit, 1), x);
@@ -221,7 +222,8 @@ public final class StrideBoundsTest {
     // ---- to come to a cell
 
     private static void come() {
-        due.term("the ROW of fewest strides (none where he is) by which the son is there; of like ones the first by digits");
+        due.term("COME to a CELL: the ROW of fewest strides (none where he is) by which the son is there; of like ones the first by "
+                + "digits");
         SevenLeague x = landed(BOTH);
         due.is("come(4), where he is", 0, x.come(4));
         due.is("come(9), one of two, one of three", 2, x.come(9));
@@ -234,6 +236,15 @@ public final class StrideBoundsTest {
         for (int k = 0; k < 60; k++) due.granted("come(" + k + ") by nines", (59 - k) % 9 == 0 && k >= 14 ? (59 - k) / 9 : -2, nines.come(k), nines);
         SevenLeague three = landed(Lands.THREE);
         due.granted("come(2), gone", -2, three.come(2), three);
+        // He stays where he is, but what is gone differs: 2 is gone, then filled.
+        due.is("fill(2)", 2, three.fill(2));
+        due.granted("come(2), filled", 1, three.come(2), three);
+        three.undo();
+        due.granted("come(2), gone again", -2, three.come(2), three);
+        // What is gone stays, but he is elsewhere.
+        due.is("come(6)", 1, three.come(6));
+        due.is("stride(0, 1)", 0, three.stride(0, 1));
+        due.granted("come(6) from 0", 2, three.come(6), three);
         due.promise(28, "NONE: 1");
         for (int k : Numbers.outside(0, 59)) due.refused("come(" + k + ")", twos.come(k), twos, 1);
         for (int k : Numbers.outside(0, 7)) due.refused("come(" + k + ")", three.come(k), three, 1);
@@ -262,7 +273,8 @@ public final class StrideBoundsTest {
     }
 
     private static void spare() {
-        due.term("the ROW, of 5 strides at most, by which he is, and behind it fewest folk more are LOST than NOW; of like ones that of fewest strides, then the first by digits");
+        due.term("SPARE for it: the ROW, of 5 strides at most, by which he is, and behind it fewest folk more are LOST than NOW; of "
+                + "like ones that of fewest strides, then the first by digits");
         // From 4 to 6 or behind it he can come into 5 or into 6, not into both, so one of them is passed.
         SevenLeague both = landed(BOTH);
         due.is("spare(6)", 1, both.spare(6));
@@ -318,6 +330,11 @@ public final class StrideBoundsTest {
             bits |= 1 << 2 * n;
             due.granted("reach(" + n + ")", bits, twos.reach(n), twos);
         }
+        twos.stride(0, 0);
+        due.is("reach(0) behind a stride, 0 being none", 4, twos.reach(0));
+        due.is("reach(1) behind a stride", 1 | 4 | 16, twos.reach(1));
+        twos.fill(1);
+        due.is("reach(1) behind a fill, the son where he was", 1 | 4 | 16, twos.reach(1));
         SevenLeague over = inBoots(60, 21, 2);
         due.is("reach(4), to 29", 0x2AAAA000 & ~((1 << 13) - 1), over.reach(4));
         due.is("reach(5), 31 is no bit", 0x2AAAA800, over.reach(5));
@@ -361,7 +378,8 @@ public final class StrideBoundsTest {
     }
 
     private static void over() {
-        due.promise(34, "What is left of the way from the son to a CELL (up or down) by the greatest number by which all strides can be parted without a rest");
+        due.promise(34, "What is left of the way from the son to a CELL (up or down) by the greatest number by which all strides can be "
+                + "parted without a rest");
         int[][] boots = {{2, 2, 2, 2}, {9, 9, 9, 9}, {9, 6, 3, 3}, {8, 4, 2, 2}, {4, 6, 8, 2}, {2, 3, 9, 1}, {9, 8, 9, 1}, {6, 9, 9, 3}, {8, 8, 4, 4}};
         for (int[] b : boots) {
             SevenLeague x = landed("land cells 60 son 30 curate 0 gout 0;boots a " + b[0] + ";boots b " + b[1] + ";boots c " + b[2]);
@@ -487,6 +505,11 @@ public final class StrideBoundsTest {
         SevenLeague inIt = landed("land cells 8 son 0 curate 2 gout 0;ground bog 2 2;ground wood 3 3;boots b 4;stride b up");
         int[] from2 = {0, 1, 4, 5, 0, 0, 0, 0};
         for (int k = 0; k < 8; k++) due.granted("steps(" + k + ") from 2, gone too", from2[k], inIt.steps(k), inIt);
+        // Standing in it he goes away and comes back for each: heath, bog, wood.
+        for (int k = 1; k <= 3; k++) {
+            SevenLeague there = landed(Lands.THREE.replace("curate 7", "curate " + k));
+            due.granted("steps(" + k + ") from it", 2 * k, there.steps(k), there);
+        }
         SevenLeague leapt = landed(Lands.LEAPT);
         due.granted("steps(1), the farthest", 58, leapt.steps(1), leapt);
         due.granted("steps(58), the next", 1, leapt.steps(58), leapt);

@@ -30,6 +30,7 @@ public final class TextBoundsTest {
         faults();
         ofOnePlace();
         land();
+        landsInTurn();
         fault();
         where();
         due.had(2, 5);
@@ -48,7 +49,7 @@ public final class TextBoundsTest {
     }
 
     private static void tape() {
-        due.term("THE TAPE has 900 bytes");
+        due.term("I. THE TEXT of a LAND (THE TAPE has 900 bytes");
         due.is("length", 900, longest().length());
         texts.good(longest());
         SevenLeague x = new SevenLeague();
@@ -76,8 +77,9 @@ public final class TextBoundsTest {
         }
         SevenLeague x = new SevenLeague();
         due.is("feed of -1 five times", 20, x.feed(-1, -1, -1, -1, -1));
-        due.is("feed of the least numbers", 40, x.feed(Integer.MIN_VALUE, Integer.MIN_VALUE, Integer.MIN_VALUE, Integer.MIN_VALUE, Integer.MIN_VALUE));
-        due.is("feed of the greatest numbers", 60, x.feed(Integer.MAX_VALUE, Integer.MAX_VALUE, Integer.MAX_VALUE, Integer.MAX_VALUE, Integer.MAX_VALUE));
+        int least = Integer.MIN_VALUE, most = Integer.MAX_VALUE;
+        due.is("feed of the least numbers", 40, x.feed(least, least, least, least, least));
+        due.is("feed of the greatest numbers", 60, x.feed(most, most, most, most, most));
     }
 
     private static void feedFull() {
@@ -119,7 +121,7 @@ public final class TextBoundsTest {
     }
 
     private static void words() {
-        due.term("WORDS of 1 to 8 small letters that stand together");
+        due.term("TOKENS: WORDS of 1 to 8 small letters that stand together");
         for (int letters = 1; letters <= 8; letters++) {
             String name = "abcdefgh".substring(0, letters);
             texts.good(LAND + ";boots " + name + " 3;stride " + name + " up");
@@ -158,7 +160,7 @@ public final class TextBoundsTest {
     }
 
     private static void marks() {
-        due.term("single ones of ;): LINE {; LINE}");
+        due.term("single ones of ;): LINE {; LINE}. LINE, one of:");
         texts.badEnd("", 1);
         texts.badEnd(" ", 1);
         texts.bad(";", 1, 0);
@@ -181,7 +183,8 @@ public final class TextBoundsTest {
     }
 
     private static void landLine() {
-        due.term("(8 .. 60; a CELL each; 0 .. 100 in a hundred), ahead of all others");
+        due.term("CELLS are WHOLES, 0 .. cells less 1");
+        due.term("land cells WHOLE son WHOLE curate WHOLE gout WHOLE (8 .. 60; a CELL each; 0 .. 100 in a hundred), ahead of all others");
         for (int cells : new int[] {8, 9, 59, 60}) {
             due.is("cells", cells, texts.good(landOf(cells, 0, 0, 0) + ";boots b 2").size(0));
             due.is("son at the last one", cells - 1, texts.good(landOf(cells, cells - 1, 0, 0) + ";boots b 2").son());
@@ -209,7 +212,8 @@ public final class TextBoundsTest {
     }
 
     private static void ground() {
-        due.term("from a CELL to one, itself or behind it; later ones over earlier ones; up to 6");
+        due.term("ground SORT WHOLE WHOLE (SORT: heath, bog, or wood; from a CELL to one, itself or behind it; later ones over earlier "
+                + "ones; up to 6");
         for (int cells : new int[] {8, 60}) {
             groundIs("ground bog 0 0", cells, 1, 0, 0);
             groundIs("ground wood " + (cells - 1) + " " + (cells - 1), cells, 2, cells - 1, cells - 1);
@@ -238,7 +242,7 @@ public final class TextBoundsTest {
     }
 
     private static void boots() {
-        due.term("a stride of so many cells, 2 .. 9; up to 3");
+        due.term("boots NAME WHOLE (a stride of so many cells, 2 .. 9; up to 3");
         for (int length = 2; length <= 9; length++) due.is("boots", length, texts.good(LAND + ";boots b " + length).boots(0));
         for (int length : new int[] {0, 1, 10, 11, 258, 999}) texts.badLast(LAND + ";boots b " + length, 4);
         for (int count = 1; count <= 3; count++) {
@@ -250,7 +254,7 @@ public final class TextBoundsTest {
     }
 
     private static void place() {
-        due.term("a CELL at which no place is; 1 .. 99; up to 6");
+        due.term("place NAME at WHOLE folk WHOLE (a CELL at which no place is; 1 .. 99; up to 6");
         for (int cells : new int[] {8, 60}) {
             String head = landOf(cells, 0, 0, 0) + ";boots b 2;place p at ";
             due.is("place at 0", 0, texts.good(head + "0 folk 1").place(0, 0));
@@ -270,7 +274,7 @@ public final class TextBoundsTest {
     }
 
     private static void stride() {
-        due.term("made by the son, in that order, ahead of all; WAY: up, or down; up to 8");
+        due.term("stride BOOTS WAY (made by the son, in that order, ahead of all; WAY: up, or down; up to 8");
         String text = BOOTS;
         for (int i = 0; i < 8; i++) {
             due.is("strides", i, texts.good(text).size(4));
@@ -281,8 +285,9 @@ public final class TextBoundsTest {
         texts.badLast(text + ";stride", 5);
         texts.badLast(text + ";seen 4 there;stride", 5);
         // Without the first one the last one would lead out of the land.
-        due.is("in that order", 1, texts.good("land cells 10 son 1 curate 0 gout 0;boots b 3;boots c 5;stride b up;stride c up;stride c down;stride b down").son());
-        texts.badLast("land cells 10 son 1 curate 0 gout 0;boots b 3;boots c 5;stride c up;stride c down;stride b down", 7);
+        String order = "land cells 10 son 1 curate 0 gout 0;boots b 3;boots c 5";
+        due.is("in that order", 1, texts.good(order + ";stride b up;stride c up;stride c down;stride b down").son());
+        texts.badLast(order + ";stride c up;stride c down;stride b down", 7);
         due.term("7 STRIDE: one told that he can't make, all told ahead of it being made; at its WAY");
         for (int length = 2; length <= 9; length++) {
             for (int cells : new int[] {10, 60}) {
@@ -298,7 +303,7 @@ public final class TextBoundsTest {
     }
 
     private static void unsure() {
-        due.term("which stride may have been the other way, 1 the first one, of those told by then; each once; up to 4");
+        due.term("unsure WHOLE (which stride may have been the other way, 1 the first one, of those told by then; each once; up to 4");
         texts.badLast(BOOTS + ";unsure 0", 4);
         texts.badLast(BOOTS + ";unsure 1", 4);
         String text = BOOTS;
@@ -317,7 +322,7 @@ public final class TextBoundsTest {
     }
 
     private static void seen() {
-        due.term("a CELL behind all strides told; HOW: gone, or there; each once; up to 6");
+        due.term("or seen WHOLE HOW (a CELL behind all strides told; HOW: gone, or there; each once; up to 6");
         for (int cells : new int[] {8, 60}) {
             String head = landOf(cells, 0, 0, 0) + ";boots b 2;seen ";
             due.is("seen 0", 1, texts.good(head + "0 there").size(6));
@@ -360,6 +365,8 @@ public final class TextBoundsTest {
         String nine = LAND + ";boots ba 2;boots bb 3;boots bc 4";
         for (int i = 0; i < 6; i++) nine += ";place p" + (char) ('a' + i) + " at " + i + " folk 1";
         due.is("the third boots", 8, texts.good(nine + ";stride bc up").son());
+        String placesFirst = LAND + nine.substring(LAND.length() + 33) + nine.substring(LAND.length(), LAND.length() + 33);
+        due.is("the third boots, the ninth name", 8, texts.good(placesFirst + ";stride bc up").son());
         texts.badLast(nine + ";stride pf", 2);
         texts.badLast(nine + ";stride pg", 2);
     }
@@ -394,10 +401,17 @@ public final class TextBoundsTest {
             char kind = i < TOKENS.length ? TOKENS[i].charAt(0) : ';';
             if (kind != 'N') texts.bad(joined(i, "zz"), kind == 'B' ? 2 : 1, cut.length());
             texts.bad(joined(i, "999"), kind == 'W' ? 4 : 1, cut.length());
+            // A word with one letter that isn't its own, one letter more or less.
+            String word = kind == 'K' ? TOKENS[i].substring(1) : "";
+            for (int at = 0; at < word.length(); at++) {
+                texts.bad(joined(i, word.substring(0, at) + "x" + word.substring(at + 1)), 1, cut.length());
+                texts.bad(joined(i, word.substring(0, at)) + (at == 0 ? "x" : ""), 1, cut.length());
+            }
+            if (kind == 'K') texts.bad(joined(i, word + "s"), 1, cut.length());
             // Words of other lines and of other places in the same line.
-            for (String word : new String[] {"cells", "son", "curate", "gout", "bog", "at", "folk", "up", "there"}) {
-                boolean fits = kind == 'N' || i < TOKENS.length && TOKENS[i].equals("K" + word);
-                if (!fits) texts.bad(joined(i, word), kind == 'B' ? 2 : 1, cut.length());
+            for (String other : new String[] {"cells", "son", "curate", "gout", "bog", "at", "folk", "up", "there"}) {
+                boolean fits = kind == 'N' || word.equals(other);
+                if (!fits) texts.bad(joined(i, other), kind == 'B' ? 2 : 1, cut.length());
             }
         }
     }
@@ -416,7 +430,8 @@ public final class TextBoundsTest {
         due.term("2 a NAME that isn't told, or is of another sort than must stand there; at it");
         texts.badLast(BOOTS + ";stride bb", 2);
         texts.badLast(BOOTS + ";place p at 1 folk 1;stride p", 2);
-        due.term("3 a NAME told again; at it; a CELL at which a place is, that was seen already, a stride unsure already; at it; a second land: at that WORD");
+        due.term("3 a NAME told again; at it; a CELL at which a place is, that was seen already, a stride unsure already; at it; a "
+                + "second land: at that WORD");
         texts.badLast(BOOTS + ";place b", 3);
         texts.badLast(BOOTS + ";place p at 8 folk 1;place q at 8", 3);
         texts.badLast(BOOTS + ";seen 8 gone;seen 8", 3);
@@ -486,6 +501,48 @@ public final class TextBoundsTest {
         due.is("undo()", false, x.undo());
         for (int i = 0; i < 3; i++) due.is("back(" + i + ")", false, x.back(i));
         due.is("gone()", 1, x.gone());
+    }
+
+    /** Lands told one behind the other to one object, with faults between: each is as if it were told to a new one. */
+    private static void landsInTurn() {
+        due.promise(3, "are the LAND from now on");
+        String[] all = {Lands.MOST, Lands.LEAST, Lands.THREE, Lands.LEAST, Lands.LEAPT, Lands.MOST, Lands.WOOD, STRIDE, Lands.MOST,
+            Lands.THREE, Lands.LEAST, Lands.LEAST, Lands.MOST, Lands.MOST, BOOTS, STRIDE, Lands.LEAST, Lands.MOST,
+            Lands.LEAST.replace("b 2", "b 3"), Lands.LEAST, Lands.MOST.replace("99", "7").replace("41 there", "41 gone"),
+            Lands.MOST.replace("99", "8").replace("40 gone", "40 there"), LAND + ";place b at 5 folk 5;boots p 3;stride p up",
+            LAND + ";place c at 5 folk 5;boots b 2;stride b up", BOOTS};
+        for (int faults = 0; faults <= 2; faults++) {
+            // In every other run only every other land is asked of: what was found out of the last but one must be forgotten.
+            for (int asked = 1; asked <= 2; asked++) {
+                SevenLeague x = new SevenLeague();
+                for (int i = 0; i < all.length; i++) {
+                    for (int j = 0; j < faults; j++) {
+                        Tapes.feed(x, Lands.MOST + ";");
+                        due.refused("land with a fault", x.land(Lands.MOST.length() + 1), x, 4);
+                    }
+                    Tapes.feed(x, all[i]);
+                    due.is("land of '" + all[i] + "'", true, x.land(all[i].length()) > 0);
+                    if (i % asked == 0) alike(x, all[i]);
+                }
+            }
+        }
+        SevenLeague x = texts.good(BOOTS);
+        for (int i = 0; i < 3; i++) {
+            String text = LAND + ";place b at 5 folk 5;boots p 3;stride b";
+            Tapes.feed(x, text);
+            due.refused("land with a stride of the last one's boots", x.land(text.length()), x, 4);
+            due.is("fault()", 2, x.fault());
+        }
+    }
+
+    private static void alike(SevenLeague x, String text) {
+        List<String> want = Probe.asking(Tapes.landed(text)), got = Probe.asking(x);
+        due.is("as many answers", want.size(), got.size());
+        for (int i = 0; i < Math.min(want.size(), got.size()); i++) {
+            due.is("'" + got.get(i) + "' is '" + want.get(i) + "' of '" + text + "'", true, want.get(i).equals(got.get(i)));
+        }
+        x.year();
+        x.image();
     }
 
     /** A land with acts, a year and all images. */

@@ -90,17 +90,22 @@ public final class FaceTest {
     private static void nested() {
         Class<?>[] classes = SevenLeague.class.getDeclaredClasses();
         check(classes.length < 12, "rule 11: some twelve classes");
+        sizes(SevenLeague.class);
         for (Class<?> c : classes) {
             check(Modifier.isStatic(c.getModifiers()), "rule 1: static " + c);
-            int fields = 0;
-            for (Field f : c.getDeclaredFields()) {
-                boolean fixed = Modifier.isStatic(f.getModifiers());
-                check(!fixed || Modifier.isFinal(f.getModifiers()), "rule 5: final " + f);
-                fields += fixed ? 0 : 1;
-            }
-            check(fields <= 20, "rule 11: some twenty fields in " + c);
-            for (Method m : c.getDeclaredMethods()) check(m.getParameterCount() <= 7, "rule 11: seven parameters in " + m);
+            sizes(c);
         }
+    }
+
+    private static void sizes(Class<?> c) {
+        int fields = 0;
+        for (Field f : c.getDeclaredFields()) {
+            boolean fixed = Modifier.isStatic(f.getModifiers());
+            check(!fixed || Modifier.isFinal(f.getModifiers()), "rule 5: final " + f);
+            fields += fixed ? 0 : 1;
+        }
+        check(fields <= 20, "rule 11: some twenty fields in " + c);
+        for (Method m : c.getDeclaredMethods()) check(m.getParameterCount() <= 7, "rule 11: seven parameters in " + m);
     }
 
     // ---- the source
@@ -113,6 +118,7 @@ public final class FaceTest {
         }
         check(!code.contains("->") && !code.contains("::"), "rule 2: no lambda, no method reference");
         check(!code.contains("Exact("), "rule 4: no Exact");
+        check(!Pattern.compile("static \\{").matcher(code).find(), "rule 5: no static initialiser");
         check(!Pattern.compile("\"\"\\s*\\+|\\+\\s*\"\"").matcher(code).find(), "rule 10: no texts joined by +");
         check(!Pattern.compile("while \\(true|for \\(;").matcher(code).find(), "rule 9: loops with an end");
         Matcher imports = Pattern.compile("import ([\\w.]+);").matcher(code);
